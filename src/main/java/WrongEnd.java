@@ -49,26 +49,15 @@ public final class WrongEnd {
     }
 
     public int scope(int cell) {
-        if (!fort.hasCell(cell) || fort.scopes >= MOST_SCOPES) {
-            return NONE;
-        }
         return fort.place(cell);
     }
 
     public boolean turn(int scope, boolean is) {
-        if (!fort.hasScope(scope)) {
-            return false;
-        }
-        fort.change(scope, false, is);
-        return true;
+        return fort.change(scope, false, is);
     }
 
     public boolean lend(int scope, boolean is) {
-        if (!fort.hasScope(scope)) {
-            return false;
-        }
-        fort.change(scope, true, is);
-        return true;
+        return fort.change(scope, true, is);
     }
 
     public int undo() {
@@ -133,7 +122,7 @@ public final class WrongEnd {
             return NONE;
         }
         optics.face(state);
-        return optics.priorNow();
+        return optics.tell(Name.PRIOR);
     }
 
     public int sees(int scope, boolean turned, int state, int hour, boolean slip) {
@@ -142,13 +131,10 @@ public final class WrongEnd {
         }
         optics.face(state);
         optics.aim(scope, fort.cells[scope], turned, hour);
-        return slip ? optics.slipNow() : optics.seenNow();
+        return slip ? optics.tell(Name.SLIP) : optics.tell(Name.SEES);
     }
 
     public int report(int scope, int hour, int tells) {
-        if (!fort.isFree(scope) || !isHour(hour) || !isDigit(tells) || fort.reports >= MOST_REPORTS) {
-            return NONE;
-        }
         return fort.write(scope, hour, tells);
     }
 
@@ -195,15 +181,15 @@ public final class WrongEnd {
         }
         if (other == NONE) {
             scales.weigh(fort.reports);
-            scales.lookHeld(one, hour);
+            scales.look(one, fort.cells[one / 2], hour);
             return scales.sureByOne(one);
         }
         if (!isFreeHold(other) || one / 2 == other / 2) {
             return NONE;
         }
         scales.weigh(fort.reports);
-        scales.lookHeld(one, hour);
-        scales.lookHeld(other, hour);
+        scales.look(one, fort.cells[one / 2], hour);
+        scales.look(other, fort.cells[other / 2], hour);
         return scales.sureByTwo(one, other);
     }
 
@@ -262,8 +248,8 @@ public final class WrongEnd {
         }
         optics.face(state);
         optics.aim(scope, fort.cells[scope], fort.turned[scope], (hour + k / free) % HOURS);
-        int seen = optics.seenNow();
-        return draw % 10 < optics.slipNow() ? oneMore(seen) : seen;
+        int seen = optics.tell(Name.SEES);
+        return draw % 10 < optics.tell(Name.SLIP) ? oneMore(seen) : seen;
     }
 
     public int image() {
@@ -411,6 +397,9 @@ public final class WrongEnd {
         }
 
         int place(int cell) {
+            if (!hasCell(cell) || scopes >= MOST_SCOPES) {
+                return NONE;
+            }
             cells[scopes] = cell;
             turned[scopes] = false;
             lent[scopes] = false;
@@ -418,13 +407,20 @@ public final class WrongEnd {
             return scopes - 1;
         }
 
-        void change(int scope, boolean lends, boolean is) {
-            boolean[] row = lends ? lent : turned;
-            if (row[scope] == is) {
-                return;
+        boolean change(int scope, boolean lends, boolean is) {
+            if (!hasScope(scope)) {
+                return false;
             }
-            row[scope] = is;
-            if (steps == MOST_STEPS) {
+            boolean[] row = lends ? lent : turned;
+            if (row[scope] != is) {
+                row[scope] = is;
+                addStep(scope, lends);
+            }
+            return true;
+        }
+
+        private void addStep(int scope, boolean lends) {
+            if (steps >= MOST_STEPS) {
                 dropOldestStep();
             }
             stepScopes[steps] = scope;
@@ -433,13 +429,15 @@ public final class WrongEnd {
         }
 
         private void dropOldestStep() {
-            System.arraycopy(stepScopes, 1, stepScopes, 0, MOST_STEPS - 1);
-            System.arraycopy(stepLends, 1, stepLends, 0, MOST_STEPS - 1);
+            for (int i = 1; i < MOST_STEPS; i++) {
+                stepScopes[i - 1] = stepScopes[i];
+                stepLends[i - 1] = stepLends[i];
+            }
             steps = MOST_STEPS - 1;
         }
 
         int stepBack() {
-            if (steps == 0) {
+            if (steps <= 0) {
                 return NONE;
             }
             steps--;
@@ -450,6 +448,9 @@ public final class WrongEnd {
         }
 
         int write(int scope, int hour, int tells) {
+            if (!isFree(scope) || !isHour(hour) || !isDigit(tells) || reports >= MOST_REPORTS) {
+                return NONE;
+            }
             reporters[reports] = scope;
             heldTurned[reports] = turned[scope];
             hours[reports] = hour;
@@ -477,19 +478,25 @@ public final class WrongEnd {
         void copy(Fort other) {
             System.arraycopy(other.hills, 0, hills, 0, MOST_CELLS);
             System.arraycopy(other.cells, 0, cells, 0, MOST_SCOPES);
-            System.arraycopy(other.turned, 0, turned, 0, MOST_SCOPES);
-            System.arraycopy(other.lent, 0, lent, 0, MOST_SCOPES);
+            copyRow(other.turned, turned);
+            copyRow(other.lent, lent);
             System.arraycopy(other.reporters, 0, reporters, 0, MOST_REPORTS);
-            System.arraycopy(other.heldTurned, 0, heldTurned, 0, MOST_REPORTS);
+            copyRow(other.heldTurned, heldTurned);
             System.arraycopy(other.hours, 0, hours, 0, MOST_REPORTS);
             System.arraycopy(other.told, 0, told, 0, MOST_REPORTS);
             System.arraycopy(other.stepScopes, 0, stepScopes, 0, MOST_STEPS);
-            System.arraycopy(other.stepLends, 0, stepLends, 0, MOST_STEPS);
+            copyRow(other.stepLends, stepLends);
             scopes = other.scopes;
             reports = other.reports;
             steps = other.steps;
             texts = other.texts;
             ruling = other.ruling;
+        }
+
+        private static void copyRow(boolean[] from, boolean[] to) {
+            for (int i = 0; i < from.length && i < to.length; i++) {
+                to[i] = from[i];
+            }
         }
     }
 
@@ -558,6 +565,7 @@ public final class WrongEnd {
                 "prior sees slip cost if end or and not x y size paints hill hour scope turned far act ";
         static final int FIRST_PLAIN_WORD = 4;
         static final int FIRST_NAME = 9;
+        static final int MOST_NUMBER = 9999;
     }
 
     /** The numbers of the CLAUSES and of the NAMES, in the order of Sign.WORDS. */
@@ -596,7 +604,7 @@ public final class WrongEnd {
         int size = 0;
 
         Program(int room) {
-            orders = new int[room];
+            orders = new int[Math.max(0, room)];
             for (int i = 0; i < Name.CLAUSES; i++) {
                 starts[i] = NONE;
             }
@@ -614,12 +622,16 @@ public final class WrongEnd {
         }
 
         void open(int clause) {
-            starts[clause] = size;
-            stops[clause] = size;
+            if (clause >= 0 && clause < Name.CLAUSES) {
+                starts[clause] = size;
+                stops[clause] = size;
+            }
         }
 
         void close(int clause) {
-            stops[clause] = size;
+            if (has(clause)) {
+                stops[clause] = size;
+            }
         }
 
         /** One order more: its place. */
@@ -634,7 +646,7 @@ public final class WrongEnd {
         /** The leap at a place goes to what comes next. */
         void landHere(int place) {
             if (place >= 0 && place < size) {
-                orders[place] = kindAt(place) + Sign.KINDS * size;
+                orders[place] = orders[place] % Sign.KINDS + Sign.KINDS * size;
             }
         }
 
@@ -643,15 +655,12 @@ public final class WrongEnd {
         }
 
         int stop(int clause) {
-            return has(clause) ? Math.min(stops[clause], orders.length) : 0;
+            return has(clause) ? stops[clause] : 0;
         }
 
-        int kindAt(int place) {
-            return orders[place] % Sign.KINDS;
-        }
-
-        int valueAt(int place) {
-            return orders[place] / Sign.KINDS;
+        /** The order's kind, and Sign.KINDS times its value. */
+        int orderAt(int place) {
+            return place >= 0 && place < size && place < orders.length ? orders[place] : 0;
         }
 
         void copy(Program other) {
@@ -663,34 +672,163 @@ public final class WrongEnd {
         }
     }
 
+    /** The tape's TOKENS, one behind the other; behind the last there is FINISH, at the tape's length. */
+    private static final class Tokens {
+        private final Tape tape;
+        private final int[] kinds = new int[MOST_BYTES];
+        private final int[] values = new int[MOST_BYTES];
+        private final int[] places = new int[MOST_BYTES];
+        private int count = 0;
+        private int next = 0;
+
+        Tokens(Tape tape) {
+            this.tape = tape;
+        }
+
+        int kindAt(int number) {
+            return number >= 0 && number < count ? kinds[number] : Sign.FINISH;
+        }
+
+        int valueAt(int number) {
+            return number >= 0 && number < count ? values[number] : 0;
+        }
+
+        int placeAt(int number) {
+            return number >= 0 && number < count ? places[number] : tape.length;
+        }
+
+        void split() {
+            count = 0;
+            next = 0;
+            for (int i = 0; i < MOST_BYTES && next < tape.length; i++) {
+                int first = tape.at(next);
+                if (isBlank(first)) {
+                    next++;
+                } else if (isLetter(first)) {
+                    splitWord();
+                } else if (isFigure(first)) {
+                    splitNumber();
+                } else {
+                    splitMark(first);
+                }
+            }
+        }
+
+        private void add(int kind, int value, int place) {
+            if (count < kinds.length) {
+                kinds[count] = kind;
+                values[count] = value;
+                places[count] = place;
+                count++;
+            }
+        }
+
+        private void splitWord() {
+            int place = next;
+            for (int i = 0; i < MOST_BYTES && isLetter(tape.at(next)); i++) {
+                next++;
+            }
+            int word = wordNumber(place, next - place);
+            if (word == NONE) {
+                add(Sign.STRANGE, 0, place);
+            } else if (word < Sign.FIRST_PLAIN_WORD) {
+                add(Sign.CLAUSE, word, place);
+            } else if (word < Sign.FIRST_NAME) {
+                add(Sign.IF + word - Sign.FIRST_PLAIN_WORD, 0, place);
+            } else {
+                add(Sign.NAME, word - Sign.FIRST_NAME, place);
+            }
+        }
+
+        /** Which of Sign.WORDS stands at a place, so many letters long. */
+        private int wordNumber(int place, int letters) {
+            int word = 0;
+            int alike = 0;
+            for (int i = 0; i < Sign.WORDS.length(); i++) {
+                char letter = Sign.WORDS.charAt(i);
+                if (letter == ' ') {
+                    if (alike == letters) {
+                        return word;
+                    }
+                    word++;
+                    alike = 0;
+                } else if (alike >= 0 && alike < letters && tape.at(place + alike) == letter) {
+                    alike++;
+                } else {
+                    alike = NONE;
+                }
+            }
+            return NONE;
+        }
+
+        private void splitNumber() {
+            int place = next;
+            int value = 0;
+            for (int i = 0; i < MOST_BYTES && isFigure(tape.at(next)); i++) {
+                // What is too much stays so, however many figures follow.
+                value = Math.min(Sign.MOST_NUMBER + 1, 10 * value + tape.at(next) - '0');
+                next++;
+            }
+            add(Sign.NUMBER, value, place);
+        }
+
+        private void splitMark(int first) {
+            int mark = Sign.MARKS.indexOf((char) first);
+            if (mark == NONE) {
+                add(Sign.STRANGE, 0, next);
+                next++;
+                return;
+            }
+            int kind = Sign.LESS + mark;
+            if (kind <= Sign.MORE && tape.at(next + 1) == '=') {
+                add(kind == Sign.LESS ? Sign.LESS_OR_LIKE : Sign.MORE_OR_LIKE, 0, next);
+                next += 2;
+                return;
+            }
+            add(kind, 0, next);
+            next++;
+        }
+
+        private static boolean isBlank(int sign) {
+            return sign == 32 || sign == 10;
+        }
+
+        private static boolean isLetter(int sign) {
+            return sign >= 'a' && sign <= 'z' || sign >= 'A' && sign <= 'Z';
+        }
+
+        private static boolean isFigure(int sign) {
+            return sign >= '0' && sign <= '9';
+        }
+    }
+
     /**
      * Reads the tape into the draft. After a FAULT the token is STRANGE for good, which nothing takes:
      * so each method comes to its end by itself, and only the first FAULT is kept.
      */
     private static final class Reader {
         private static final int MOST_OPEN = 8;
-        private static final int MOST_NUMBER = 9999;
 
         final Program draft = new Program(MOST_BYTES);
         int faultKind = NONE;
         int faultPlace = NONE;
-        private final Tape tape;
+        private final Tokens tokens;
+        private int at = 0;
         private int kind = Sign.FINISH;
         private int value = 0;
-        private int place = 0;
-        private int next = 0;
         private int clause = 0;
 
         Reader(Tape tape) {
-            this.tape = tape;
+            tokens = new Tokens(tape);
         }
 
         /** True if there is no FAULT. */
         boolean read() {
             faultKind = 0;
             faultPlace = NONE;
-            next = 0;
             draft.clear();
+            tokens.split();
+            at = NONE;
             advance();
             for (int i = 0; i < MOST_BYTES && kind == Sign.CLAUSE; i++) {
                 readClause();
@@ -765,7 +903,7 @@ public final class WrongEnd {
         }
 
         private void takeNumber() {
-            if (value > MOST_NUMBER) {
+            if (value > Sign.MOST_NUMBER) {
                 refuse(2);
                 return;
             }
@@ -853,102 +991,15 @@ public final class WrongEnd {
         private void refuse(int fault) {
             if (faultKind == 0) {
                 faultKind = fault;
-                faultPlace = place;
+                faultPlace = tokens.placeAt(at);
             }
             kind = Sign.STRANGE;
         }
 
-        /** Comes to the next token: its kind, value and place. */
         private void advance() {
-            for (int i = 0; i < MOST_BYTES && isBlank(tape.at(next)); i++) {
-                next++;
-            }
-            place = next;
-            int first = tape.at(next);
-            if (first == NONE) {
-                kind = Sign.FINISH;
-            } else if (isLetter(first)) {
-                splitWord();
-            } else if (isFigure(first)) {
-                splitNumber();
-            } else {
-                splitMark(first);
-            }
-        }
-
-        private void splitWord() {
-            for (int i = 0; i < MOST_BYTES && isLetter(tape.at(next)); i++) {
-                next++;
-            }
-            int word = wordNumber(next - place);
-            if (word == NONE) {
-                kind = Sign.STRANGE;
-            } else if (word < Sign.FIRST_PLAIN_WORD) {
-                kind = Sign.CLAUSE;
-                value = word;
-            } else if (word < Sign.FIRST_NAME) {
-                kind = Sign.IF + word - Sign.FIRST_PLAIN_WORD;
-            } else {
-                kind = Sign.NAME;
-                value = word - Sign.FIRST_NAME;
-            }
-        }
-
-        /** Which of Sign.WORDS stands at the token's place, so many letters long. */
-        private int wordNumber(int letters) {
-            int word = 0;
-            int alike = 0;
-            for (int i = 0; i < Sign.WORDS.length(); i++) {
-                char letter = Sign.WORDS.charAt(i);
-                if (letter == ' ') {
-                    if (alike == letters) {
-                        return word;
-                    }
-                    word++;
-                    alike = 0;
-                } else if (alike >= 0 && alike < letters && tape.at(place + alike) == letter) {
-                    alike++;
-                } else {
-                    alike = NONE;
-                }
-            }
-            return NONE;
-        }
-
-        private void splitNumber() {
-            kind = Sign.NUMBER;
-            value = 0;
-            for (int i = 0; i < MOST_BYTES && isFigure(tape.at(next)); i++) {
-                // What is too much stays so, however many figures follow.
-                value = Math.min(MOST_NUMBER + 1, 10 * value + tape.at(next) - '0');
-                next++;
-            }
-        }
-
-        private void splitMark(int first) {
-            int mark = Sign.MARKS.indexOf((char) first);
-            next++;
-            if (mark == NONE) {
-                kind = Sign.STRANGE;
-                return;
-            }
-            kind = Sign.LESS + mark;
-            if (kind <= Sign.MORE && tape.at(next) == '=') {
-                kind = kind == Sign.LESS ? Sign.LESS_OR_LIKE : Sign.MORE_OR_LIKE;
-                next++;
-            }
-        }
-
-        private static boolean isBlank(int sign) {
-            return sign == 32 || sign == 10;
-        }
-
-        private static boolean isLetter(int sign) {
-            return sign >= 'a' && sign <= 'z' || sign >= 'A' && sign <= 'Z';
-        }
-
-        private static boolean isFigure(int sign) {
-            return sign >= '0' && sign <= '9';
+            at++;
+            kind = tokens.kindAt(at);
+            value = tokens.valueAt(at);
         }
     }
 
@@ -966,13 +1017,14 @@ public final class WrongEnd {
             top = 0;
             int stop = program.stop(clause);
             for (int at = program.start(clause); at < stop; at++) {
-                int value = program.valueAt(at);
-                switch (program.kindAt(at)) {
+                int order = program.orderAt(at);
+                int value = order / Sign.KINDS;
+                switch (order % Sign.KINDS) {
                     case Sign.NUMBER:
                         push(value);
                         break;
                     case Sign.NAME:
-                        push(value < Name.NAMES ? names[value] : 0);
+                        push(value >= 0 && value < Name.NAMES ? names[value] : 0);
                         break;
                     case Sign.UNLESS:
                         if (pop() == 0) {
@@ -989,8 +1041,7 @@ public final class WrongEnd {
                         push(-pop());
                         break;
                     default:
-                        int right = pop();
-                        push(joined(program.kindAt(at), pop(), right));
+                        join(order % Sign.KINDS);
                 }
             }
             return pop();
@@ -1004,26 +1055,39 @@ public final class WrongEnd {
         }
 
         private int pop() {
-            if (top == 0) {
+            if (top <= 0) {
                 return 0;
             }
             top--;
             return pile[top];
         }
 
-        private static int joined(int kind, int left, int right) {
+        private void join(int kind) {
+            int right = pop();
+            int left = pop();
+            if (kind >= Sign.PLUS) {
+                push(reckoned(kind, left, right));
+            } else {
+                push(holds(kind, left, right) ? 1 : 0);
+            }
+        }
+
+        private static int reckoned(int kind, int left, int right) {
+            long number = 0;
             switch (kind) {
                 case Sign.PLUS:
-                    return within((long) left + right);
+                    number = (long) left + right;
+                    break;
                 case Sign.MINUS:
-                    return within((long) left - right);
+                    number = (long) left - right;
+                    break;
                 case Sign.TIMES:
-                    return within((long) left * right);
-                case Sign.OVER:
-                    return right == 0 ? 0 : left / right;
+                    number = (long) left * right;
+                    break;
                 default:
-                    return holds(kind, left, right) ? 1 : 0;
+                    number = right == 0 ? 0 : left / right;
             }
+            return (int) Math.max(-MOST, Math.min(MOST, number));
         }
 
         private static boolean holds(int kind, int left, int right) {
@@ -1046,14 +1110,13 @@ public final class WrongEnd {
                     return left + right > 1;
             }
         }
-
-        private static int within(long number) {
-            return (int) Math.max(-MOST, Math.min(MOST, number));
-        }
     }
 
     /** What THE TEXT says of the STATE that is faced and the TELESCOPE that is aimed at it. */
     private static final class Optics {
+        /** Of each CLAUSE. */
+        private static final int[] MOST = {99, 9, 9, 999};
+
         private final Fort fort;
         private final Program[] texts;
         private final Program blank = new Program(0);
@@ -1084,30 +1147,28 @@ public final class WrongEnd {
                     + Math.abs(names[Name.Y] - cell / fort.wide);
         }
 
-        int priorNow() {
-            return told(Name.PRIOR, 1, 99);
-        }
-
-        int seenNow() {
-            int without = machine.names[Name.TURNED] == 1 ? 0 : machine.names[Name.SIZE];
-            return told(Name.SEES, without, 9);
-        }
-
-        int slipNow() {
-            return told(Name.SLIP, 0, 9);
-        }
-
-        int costNow(int act) {
+        void choose(int act) {
             machine.names[Name.ACT] = act;
-            return told(Name.COST, 0, 999);
         }
 
-        private int told(int clause, int without, int most) {
+        /** What a CLAUSE comes to: the STATE must be faced and, as it needs them, the TELESCOPE aimed or the ACT chosen. */
+        int tell(int clause) {
             Program program = fort.hasText(fort.ruling) ? texts[fort.ruling] : blank;
             if (!program.has(clause)) {
-                return without;
+                return without(clause);
             }
-            return Math.max(0, Math.min(most, machine.work(program, clause)));
+            return Math.max(0, Math.min(MOST[clause], machine.work(program, clause)));
+        }
+
+        private int without(int clause) {
+            switch (clause) {
+                case Name.PRIOR:
+                    return 1;
+                case Name.SEES:
+                    return machine.names[Name.TURNED] == 1 ? 0 : machine.names[Name.SIZE];
+                default:
+                    return 0;
+            }
         }
     }
 
@@ -1134,7 +1195,7 @@ public final class WrongEnd {
 
         long weightAsOf(int state, int k) {
             optics.face(state);
-            long weight = optics.priorNow();
+            long weight = optics.tell(Name.PRIOR);
             for (int i = 0; i < k && i < MOST_REPORTS && weight != 0; i++) {
                 weight *= share(i);
             }
@@ -1145,12 +1206,12 @@ public final class WrongEnd {
         private int share(int report) {
             int scope = fort.reporters[report];
             optics.aim(scope, fort.cells[scope], fort.heldTurned[report], fort.hours[report]);
-            int seen = optics.seenNow();
+            int seen = optics.tell(Name.SEES);
             int told = fort.told[report];
             if (told == seen) {
-                return 10 - optics.slipNow();
+                return 10 - optics.tell(Name.SLIP);
             }
-            return told == oneMore(seen) ? optics.slipNow() : 0;
+            return told == oneMore(seen) ? optics.tell(Name.SLIP) : 0;
         }
 
         /** Weighs all STATES AS OF k REPORTS, for the methods below: what they weigh together. */
@@ -1201,10 +1262,11 @@ public final class WrongEnd {
 
         long costOf(int act) {
             long cost = 0;
+            optics.choose(act);
             for (int state = 0; state < states; state++) {
                 if (weights[state] != 0) {
                     optics.face(state);
-                    cost += weights[state] * optics.costNow(act);
+                    cost += weights[state] * optics.tell(Name.COST);
                 }
             }
             return cost;
@@ -1213,22 +1275,18 @@ public final class WrongEnd {
         void lookAll(int hour) {
             for (int hold = 0; hold < HOLDS; hold++) {
                 if (fort.isFree(hold / 2)) {
-                    lookHeld(hold, hour);
+                    look(hold, fort.cells[hold / 2], hour);
                 }
             }
         }
 
-        void lookHeld(int hold, int hour) {
-            look(hold, fort.cells[hold / 2], hour);
-        }
-
         /** What this hold would see from a cell; STATES without WEIGHT are passed over here and below. */
-        private void look(int hold, int cell, int hour) {
+        void look(int hold, int cell, int hour) {
             for (int state = 0; state < states; state++) {
                 if (weights[state] != 0) {
                     optics.face(state);
                     optics.aim(hold / 2, cell, hold % 2 == 1, hour);
-                    views[hold][state] = 10 * optics.seenNow() + optics.slipNow();
+                    views[hold][state] = 10 * optics.tell(Name.SEES) + optics.tell(Name.SLIP);
                 }
             }
         }

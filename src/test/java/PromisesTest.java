@@ -209,6 +209,29 @@ public final class PromisesTest {
         x.turn(0, true);
         due("6: taking back is no step", x.about(6), 1);
         due("6: a new one", x.undo(), 0);
+        turningsAndLendings();
+    }
+
+    /** Of 27 steps of eight telescopes, each a turning or a lending, the latest 20 go back in their order. */
+    private void turningsAndLendings() {
+        WrongEnd x = new WrongEnd(1, 1);
+        place(x, 0, 0, 0, 0, 0, 0, 0, 0);
+        int[] scopes = new int[27];
+        int[] before = new int[27];
+        for (int i = 0; i < 27; i++) {
+            scopes[i] = i * 5 % 8;
+            before[i] = x.about(30 + scopes[i]);
+            if (i * i % 3 == 0) {
+                x.lend(scopes[i], before[i] % 10 == 0);
+            } else {
+                x.turn(scopes[i], before[i] < 10);
+            }
+        }
+        for (int i = 26; i >= 7; i--) {
+            due("6: mixed step " + i, x.undo(), scopes[i]);
+            due("6: mixed step " + i + " is taken back", x.about(30 + scopes[i]), before[i]);
+        }
+        due("6: no mixed step more", x.undo(), NONE);
     }
 
     private void feed() {
@@ -471,6 +494,10 @@ public final class PromisesTest {
         worked("if 1=1?4:5 end*2", 8);
         worked("2*if 1=2?4:5 end+1", 11);
         worked("if if 1=1?0:1 end=0?if 2=2?6:7 end:8 end", 6);
+        // Each level leaves five numbers waiting for the inner one: it comes to 2 only if that did.
+        String level = "if 1=2 or 1=1 and 3=1+1*";
+        worked(level.repeat(8) + "2" + "?2:5 end".repeat(8), 2);
+        worked(level.repeat(8) + "3" + "?2:5 end".repeat(8), 5);
     }
 
     private void asked(String question, boolean holds) {

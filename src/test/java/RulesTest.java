@@ -28,6 +28,7 @@ public final class RulesTest {
     private static final int MOST_CLASSES = 12;
     private static final int MOST_FIELDS = 20;
     private static final int MOST_PARAMETERS = 7;
+    private static final int ROUNDS = 100;
 
     private final Checks checks = new Checks();
 
@@ -95,7 +96,8 @@ public final class RulesTest {
         int own = 0;
         for (Field field : one.getDeclaredFields()) {
             if (isStatic(field)) {
-                boolean plain = field.getType().isPrimitive() || field.getType() == String.class;
+                boolean plain = Set.of(int.class, long.class, boolean.class, char.class, String.class, int[].class,
+                        long[].class, char[].class, byte[].class).contains(field.getType());
                 holds(field + " is a constant", Modifier.isFinal(field.getModifiers()) && plain);
             } else {
                 own++;
@@ -151,11 +153,12 @@ public final class RulesTest {
         long before = threads.getCurrentThreadAllocatedBytes();
         long none = threads.getCurrentThreadAllocatedBytes() - before;
         before = threads.getCurrentThreadAllocatedBytes();
-        for (int i = 0; i < 20; i++) {
+        for (int i = 0; i < ROUNDS; i++) {
             everyCall(x);
         }
         long made = threads.getCurrentThreadAllocatedBytes() - before - none;
-        checks.due("bytes that 20 rounds of all calls make", made, 0);
+        // One object a round would be 16 bytes a round at least; the virtual machine itself may need a few.
+        holds(ROUNDS + " rounds of all calls make " + made + " bytes", made < 16 * ROUNDS);
     }
 
     private static void everyCall(WrongEnd x) {
