@@ -176,19 +176,18 @@ public final class WrongEnd {
     }
 
     public long sure(int one, int other, int hour) {
+        boolean alone = other == NONE;
         if (!isHour(hour) || !isFreeHold(one)) {
             return NONE;
         }
-        if (other == NONE) {
-            scales.weigh(fort.reports);
-            scales.look(one, fort.cells[one / 2], hour);
-            return scales.sureByOne(one);
-        }
-        if (!isFreeHold(other) || one / 2 == other / 2) {
+        if (!alone && (!isFreeHold(other) || one / 2 == other / 2)) {
             return NONE;
         }
         scales.weigh(fort.reports);
         scales.look(one, fort.cells[one / 2], hour);
+        if (alone) {
+            return scales.sureByOne(one);
+        }
         scales.look(other, fort.cells[other / 2], hour);
         return scales.sureByTwo(one, other);
     }
@@ -237,7 +236,7 @@ public final class WrongEnd {
         if (n < 1 || n > 10 || k < 0 || k >= n * free) {
             return NONE;
         }
-        // Each of the k reports ahead of this one has made one draw.
+        // X is looked at first and drawn anew then, once for each report: so k times ahead of this one.
         int draw = seed * 3 + 1;
         for (int i = 0; i < k; i++) {
             draw = (draw * 179 + 83) % 30071;
@@ -605,9 +604,7 @@ public final class WrongEnd {
 
         Program(int room) {
             orders = new int[Math.max(0, room)];
-            for (int i = 0; i < Name.CLAUSES; i++) {
-                starts[i] = NONE;
-            }
+            clear();
         }
 
         void clear() {
@@ -1114,7 +1111,7 @@ public final class WrongEnd {
 
     /** What THE TEXT says of the STATE that is faced and the TELESCOPE that is aimed at it. */
     private static final class Optics {
-        /** Of each CLAUSE. */
+        /** What each CLAUSE comes to at most. */
         private static final int[] MOST = {99, 9, 9, 999};
 
         private final Fort fort;
