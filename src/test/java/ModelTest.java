@@ -3,8 +3,11 @@ import java.util.Random;
 
 /** Many runs of calls by fixed seeds, each answer held against the model's. */
 public final class ModelTest {
-    private static final int RUNS = 1500;
-    private static final int CALLS = 300;
+    private static final int RUNS = 2000;
+    /** The document promises nothing behind these. */
+    private static final int MOST_CALLS = 512;
+    /** What call() makes at most: a look around. */
+    private static final int CALLS_OF_A_LOOK = 63;
 
     private final Checks checks;
     private final Random random;
@@ -12,6 +15,7 @@ public final class ModelTest {
     private final int run;
     private final WrongEnd x;
     private final Model m;
+    private int calls = 0;
 
     private ModelTest(Checks checks, int run) {
         this.checks = checks;
@@ -29,7 +33,7 @@ public final class ModelTest {
         for (int run = 0; run < RUNS && checks.allDue(); run++) {
             ModelTest test = new ModelTest(checks, run);
             test.begin();
-            for (int call = 0; call < CALLS && checks.allDue(); call++) {
+            while (test.calls + 2 * CALLS_OF_A_LOOK <= MOST_CALLS && checks.allDue()) {
                 test.call();
             }
             test.lookAround();
@@ -38,10 +42,12 @@ public final class ModelTest {
     }
 
     private void due(String call, long got, long want) {
+        calls++;
         checks.due("run " + run + ": " + call, got, want);
     }
 
     private void due(String call, boolean got, boolean want) {
+        calls++;
         checks.due("run " + run + ": " + call, got, want);
     }
 

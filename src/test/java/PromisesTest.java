@@ -1,12 +1,5 @@
 /** The promises 1 to 26 of the document, one method each, with answers worked out by hand. */
-public final class PromisesTest {
-    private static final int NONE = WrongEnd.NONE;
-    private static final int LOW = Integer.MIN_VALUE;
-    private static final int HIGH = Integer.MAX_VALUE;
-    private static final int[] WRONG = {LOW, LOW + 1, -1000, -2, HIGH - 1, HIGH};
-
-    private final Checks checks = new Checks();
-
+public final class PromisesTest extends Sheet {
     public static void main(String[] args) {
         PromisesTest test = new PromisesTest();
         test.newObject();
@@ -40,28 +33,6 @@ public final class PromisesTest {
         test.about();
         test.greatNumbers();
         test.checks.finish("PromisesTest");
-    }
-
-    private void due(String what, long got, long want) {
-        checks.due(what, got, want);
-    }
-
-    private void due(String what, boolean got, boolean want) {
-        checks.due(what, got, want);
-    }
-
-    /** An object ruled by a text that must be sound. */
-    private WrongEnd ruled(int w, int h, String text) {
-        WrongEnd x = new WrongEnd(w, h);
-        due("text() of " + text, Feeder.text(x, text), 0);
-        due("by(0)", x.by(0), true);
-        return x;
-    }
-
-    private void place(WrongEnd x, int... cells) {
-        for (int i = 0; i < cells.length; i++) {
-            due("scope(" + cells[i] + ")", x.scope(cells[i]), i);
-        }
     }
 
     private void newObject() {
@@ -308,108 +279,97 @@ public final class PromisesTest {
         for (int what = -2; what < 4; what++) {
             due("10: ahead of any", x.fault(what), NONE);
         }
-        faulty(x, "", 0, NONE);
-        faulty(x, "prior x;", 0, NONE);
+        faulty("", 0, NONE);
+        faulty("prior x;", 0, NONE);
         for (int wrong : WRONG) {
             due("10: wrong", x.fault(wrong), NONE);
         }
-        faulty(x, "x", 1, 0);
-        faulty(x, "  5", 1, 2);
-        faulty(x, ";", 1, 0);
-        faulty(x, "Prior 1;", 1, 0);
-        faulty(x, "prior1;", 0, NONE);
-        faulty(x, "prior1end;", 1, 6);
-        faulty(x, "prior", 1, 5);
-        faulty(x, "prior  \n ", 1, 9);
-        faulty(x, "prior 1  ", 1, 9);
-        faulty(x, "prior ;", 1, 6);
-        faulty(x, "prior \t1;", 1, 6);
-        faulty(x, "prior 1\r;", 1, 7);
-        faulty(x, "prior prior;", 1, 6);
-        faulty(x, "prior X;", 1, 6);
-        faulty(x, "prior sizes;", 1, 6);
-        faulty(x, "prior siz;", 1, 6);
-        faulty(x, "prior 1 + ;", 1, 10);
-        faulty(x, "prior 1 * + 1;", 1, 10);
-        faulty(x, "prior +1;", 1, 6);
-        faulty(x, "prior (1;", 1, 8);
-        faulty(x, "prior 1);", 1, 7);
-        faulty(x, "prior 1 2;", 1, 8);
-        faulty(x, "prior 1; 2", 1, 9);
-        faulty(x, "prior 1;;", 1, 8);
-        faulty(x, "prior 1 < 2;", 1, 8);
-        faulty(x, "prior not 1;", 1, 6);
-        faulty(x, "prior if 1 ? 1 : 2 end;", 1, 11);
-        faulty(x, "prior if (1 = 1) ? 1 : 2 end;", 1, 12);
-        faulty(x, "prior if 1 < = 1 ? 1 : 2 end;", 1, 13);
-        faulty(x, "prior if 1 =< 1 ? 1 : 2 end;", 1, 12);
-        faulty(x, "prior if 1 < 1 < 1 ? 1 : 2 end;", 1, 15);
-        faulty(x, "prior if 1 = 1 : 1 ? 2 end;", 1, 15);
-        faulty(x, "prior if 1 = 1 ? 1 end;", 1, 19);
-        faulty(x, "prior if 1 = 1 ? 1 : 2;", 1, 22);
-        faulty(x, "prior if 1 = 1 or ? 1 : 2 end;", 1, 18);
-        faulty(x, "prior if 1 = 1 and or 1 = 1 ? 1 : 2 end;", 1, 19);
-        faulty(x, "prior if or = 1 ? 1 : 2 end;", 1, 9);
-        faulty(x, "prior 1 ! 1;", 1, 8);
-        faulty(x, "prior 1" + (char) 233 + ";", 1, 7);
-        faulty(x, "prior 1" + (char) 0 + ";", 1, 7);
-        faulty(x, "prior 9999;", 0, NONE);
-    }
-
-    /** The text's fault and its place; what is sound goes away again. */
-    private void faulty(WrongEnd x, String text, int fault, int place) {
-        due("10: text() of " + text, Feeder.text(x, text), fault == 0 ? 0 : NONE);
-        due("10: fault(0) of " + text, x.fault(0), fault);
-        due("10: fault(1) of " + text, x.fault(1), place);
-        x.back();
-        due("10: fault(0) stays behind back", x.fault(0), fault);
-        due("10: fault(1) stays behind back", x.fault(1), place);
+        faulty("x", 1, 0);
+        faulty("  5", 1, 2);
+        faulty(";", 1, 0);
+        faulty("Prior 1;", 1, 0);
+        faulty("prior1;", 0, NONE);
+        faulty("prior1end;", 1, 6);
+        faulty("prior", 1, 5);
+        faulty("prior  \n ", 1, 9);
+        faulty("prior 1  ", 1, 9);
+        faulty("prior ;", 1, 6);
+        faulty("prior \t1;", 1, 6);
+        faulty("prior 1\r;", 1, 7);
+        faulty("prior prior;", 1, 6);
+        faulty("prior X;", 1, 6);
+        faulty("prior sizes;", 1, 6);
+        faulty("prior siz;", 1, 6);
+        faulty("prior 1 + ;", 1, 10);
+        faulty("prior 1 * + 1;", 1, 10);
+        faulty("prior +1;", 1, 6);
+        faulty("prior (1;", 1, 8);
+        faulty("prior 1);", 1, 7);
+        faulty("prior 1 2;", 1, 8);
+        faulty("prior 1; 2", 1, 9);
+        faulty("prior 1;;", 1, 8);
+        faulty("prior 1 < 2;", 1, 8);
+        faulty("prior not 1;", 1, 6);
+        faulty("prior if 1 ? 1 : 2 end;", 1, 11);
+        faulty("prior if (1 = 1) ? 1 : 2 end;", 1, 12);
+        faulty("prior if 1 < = 1 ? 1 : 2 end;", 1, 13);
+        faulty("prior if 1 =< 1 ? 1 : 2 end;", 1, 12);
+        faulty("prior if 1 < 1 < 1 ? 1 : 2 end;", 1, 15);
+        faulty("prior if 1 = 1 : 1 ? 2 end;", 1, 15);
+        faulty("prior if 1 = 1 ? 1 end;", 1, 19);
+        faulty("prior if 1 = 1 ? 1 : 2;", 1, 22);
+        faulty("prior if 1 = 1 or ? 1 : 2 end;", 1, 18);
+        faulty("prior if 1 = 1 and or 1 = 1 ? 1 : 2 end;", 1, 19);
+        faulty("prior if or = 1 ? 1 : 2 end;", 1, 9);
+        faulty("prior 1 ! 1;", 1, 8);
+        faulty("prior 1" + (char) 233 + ";", 1, 7);
+        faulty("prior 1" + (char) 0 + ";", 1, 7);
+        faulty("prior 9999;", 0, NONE);
     }
 
     private void faultsOfDepth() {
-        WrongEnd x = new WrongEnd(1, 1);
-        faulty(x, "prior 10000;", 2, 6);
-        faulty(x, "prior 00009999;", 0, NONE);
-        faulty(x, "prior 99999999999999999999999999;", 2, 6);
-        faulty(x, "prior 4294967297;", 2, 6);
-        faulty(x, "prior 1 10000;", 1, 8);
-        faulty(x, "prior (10000 x;", 2, 7);
-        faulty(x, "prior ((((((((1))))))));", 0, NONE);
-        faulty(x, "prior (((((((((1)))))))));", 3, 14);
-        faulty(x, "prior --------1;", 0, NONE);
-        faulty(x, "prior ---------1;", 3, 14);
-        faulty(x, "prior 1---------1;", 0, NONE);
-        faulty(x, "prior 1----------1;", 3, 16);
-        faulty(x, "prior (-(-(-(-1))))+(-(-(-(-1))));", 0, NONE);
-        faulty(x, "prior (-(-(-(-(1)))))", 3, 14);
-        faulty(x, "prior -1+-1+-1+-1+-1+-1+-1+-1+-1+-1;", 0, NONE);
-        faulty(x, "prior (1)*(1)*(1)*(1)*(1)*(1)*(1)*(1)*(1);", 0, NONE);
-        faulty(x, "prior if not not not not not not not 1=1?1:2 end;", 0, NONE);
-        faulty(x, "prior if not not not not not not not not 1=1?1:2 end;", 3, 37);
-        faulty(x, "prior if not not not not not not not (1)=1?1:2 end;", 3, 37);
-        faulty(x, "prior if not not not not not not not 1=(1)?1:2 end;", 3, 39);
-        faulty(x, "prior if not not not not not not not 1=1 and not 1=1?(1):-2 end;", 0, NONE);
-        faulty(x, "prior " + "if 1=1?".repeat(9), 3, 62);
-        faulty(x, "prior " + "if 1=1?".repeat(8) + "1" + ":2 end".repeat(8) + ";", 0, NONE);
-        faulty(x, "prior ((((((((1)))))))) (", 1, 24);
-        faulty(x, "prior 1; prior 2;", 4, 9);
-        faulty(x, "prior 1; prior", 4, 9);
-        faulty(x, "sees 1;slip 1;cost 1;prior 1;cost", 4, 29);
-        faulty(x, "prior 1 prior 2;", 1, 8);
+        faulty("prior 10000;", 2, 6);
+        faulty("prior 00009999;", 0, NONE);
+        faulty("prior 99999999999999999999999999;", 2, 6);
+        faulty("prior 4294967297;", 2, 6);
+        faulty("prior 1 10000;", 1, 8);
+        faulty("prior (10000 x;", 2, 7);
+        faulty("prior ((((((((1))))))));", 0, NONE);
+        faulty("prior (((((((((1)))))))));", 3, 14);
+        faulty("prior --------1;", 0, NONE);
+        faulty("prior ---------1;", 3, 14);
+        faulty("prior 1---------1;", 0, NONE);
+        faulty("prior 1----------1;", 3, 16);
+        faulty("prior (-(-(-(-1))))+(-(-(-(-1))));", 0, NONE);
+        faulty("prior (-(-(-(-(1)))))", 3, 14);
+        faulty("prior -1+-1+-1+-1+-1+-1+-1+-1+-1+-1;", 0, NONE);
+        faulty("prior (1)*(1)*(1)*(1)*(1)*(1)*(1)*(1)*(1);", 0, NONE);
+        faulty("prior if not not not not not not not 1=1?1:2 end;", 0, NONE);
+        faulty("prior if not not not not not not not not 1=1?1:2 end;", 3, 37);
+        faulty("prior if not not not not not not not (1)=1?1:2 end;", 3, 37);
+        faulty("prior if not not not not not not not 1=(1)?1:2 end;", 3, 39);
+        faulty("prior if not not not not not not not 1=1 and not 1=1?(1):-2 end;", 0, NONE);
+        faulty("prior " + "if 1=1?".repeat(9), 3, 62);
+        faulty("prior " + "if 1=1?".repeat(8) + "1" + ":2 end".repeat(8) + ";", 0, NONE);
+        faulty("prior ((((((((1)))))))) (", 1, 24);
+        faulty("prior 1; prior 2;", 4, 9);
+        faulty("prior 1; prior", 4, 9);
+        faulty("sees 1;slip 1;cost 1;prior 1;cost", 4, 29);
+        faulty("prior 1 prior 2;", 1, 8);
         for (String name : new String[] {"hour", "scope", "turned", "far"}) {
-            faulty(x, "prior " + name + ";", 5, 6);
-            faulty(x, "cost 1+" + name + ";", 5, 7);
-            faulty(x, "sees " + name + ";slip " + name + ";", 0, NONE);
-            faulty(x, "prior 1 " + name + ";", 1, 8);
+            faulty("prior " + name + ";", 5, 6);
+            faulty("cost 1+" + name + ";", 5, 7);
+            faulty("sees " + name + ";slip " + name + ";", 0, NONE);
+            faulty("prior 1 " + name + ";", 1, 8);
         }
         for (String name : new String[] {"x", "y", "size", "paints", "hill"}) {
-            faulty(x, "prior " + name + ";sees " + name + ";slip " + name + ";cost " + name + ";", 0, NONE);
+            faulty("prior " + name + ";sees " + name + ";slip " + name + ";cost " + name + ";", 0, NONE);
         }
-        faulty(x, "prior act;", 5, 6);
-        faulty(x, "sees act;", 5, 5);
-        faulty(x, "slip act;", 5, 5);
-        faulty(x, "cost act;", 0, NONE);
-        faulty(x, "cost act;slip act", 5, 14);
+        faulty("prior act;", 5, 6);
+        faulty("sees act;", 5, 5);
+        faulty("slip act;", 5, 5);
+        faulty("cost act;", 0, NONE);
+        faulty("cost act;slip act", 5, 14);
     }
 
     private void by() {
@@ -452,10 +412,6 @@ public final class PromisesTest {
         due("12: 0", ruled(1, 1, "prior 0;").prior(0), 0);
         due("12: 99", ruled(1, 1, "prior 99;").prior(0), 99);
         due("12: without", ruled(1, 1, "sees 5;").prior(0), 1);
-    }
-
-    private void worked(String sum, int want) {
-        due("12: " + sum, ruled(1, 1, "prior " + sum + ";").prior(0), want);
     }
 
     private void sums() {
