@@ -176,6 +176,12 @@ public final class EdgesOfImagesTest extends Sheet {
             x.turn(scope, scope % 2 == 0);
             x.lend(scope, scope % 4 != 3);
         }
+        x.lend(7, false);
+        x.forget();
+        for (int i = 0; i < 10; i++) {
+            x.turn(7, i % 3 != 1);
+            x.report(7, i, 9 - i);
+        }
         due("25: ten reports", x.back(), 10);
         for (int cell = 0; cell < 16; cell++) {
             due("25: hill of " + cell, x.about(10 + cell), cell % 10);

@@ -13,6 +13,7 @@ public final class EdgesOfTextsTest extends Sheet {
         test.fourTexts();
         test.faultyTexts();
         test.threeHundredBytes();
+        test.longTextsOneAfterTheOther();
         test.faultsToldLater();
         test.everyByteAlone();
         test.everyByteAmongFigures();
@@ -186,6 +187,20 @@ public final class EdgesOfTextsTest extends Sheet {
         faulty(";".repeat(300), 1, 0);
         worked("1" + "+1*1".repeat(70), 71);
         worked("-".repeat(8) + "7" + "*1".repeat(140), 7);
+    }
+
+    /** What a text before has left, sound or not, takes no room from the next. */
+    private void longTextsOneAfterTheOther() {
+        WrongEnd x = new WrongEnd(1, 1);
+        for (int i = 1; i <= 9; i++) {
+            due("9: with a fault at its end", Feeder.text(x, "prior " + "1+".repeat(147)), NONE);
+            due("9: sound, number " + (i - 1) % 3, Feeder.text(x, "prior " + i + "*1".repeat(145) + "+1;"), (i - 1) % 3);
+            x.by((i - 1) % 3);
+            due("12: whole", x.prior(0), i + 1);
+            if (i % 3 == 0) {
+                x.back();
+            }
+        }
     }
 
     /** 10: "Of the latest text that was read"; "NONE for others, and ahead of any". */

@@ -21,8 +21,11 @@ public final class EdgesOfWeighingTest extends Sheet {
         test.likelyOnes();
         test.sureOfWhom();
         test.sureOfAllThatCanBeTold();
+        test.sureOfSlips();
+        test.sureFromTheirCells();
         test.askedAlone();
         test.askedInTwos();
+        test.askedAtTheirCells();
         test.asksOfOthers();
         test.whereAnEighthStands();
         test.actsOneToFive();
@@ -308,6 +311,10 @@ public final class EdgesOfWeighingTest extends Sheet {
         due("18: the last by one", ruled(4, 4, "prior 9+x*y*size*paints/36;").likely(0), 127);
         due("18: two alike", ruled(4, 4, "prior if x=3 and size=2?7:if y=3?7:6 end end;").likely(0), 26);
         due("18: all 0", ruled(4, 4, "prior 0;").likely(0), NONE);
+        for (int state = 0; state < 16; state++) {
+            String text = "prior if 8*x+2*size-2+paints=" + state + "?2:1 end;";
+            due("18: state " + state, ruled(2, 1, text).likely(0), state);
+        }
         WrongEnd x = ruled(1, 1, "sees size;slip paints*5;");
         place(x, 0);
         x.report(0, 0, 2);
@@ -376,6 +383,40 @@ public final class EdgesOfWeighingTest extends Sheet {
         due("19: all weights are 0, of two", none.sure(0, 2, 0), 0);
     }
 
+    /** What is seen may be told as one more, too: there the other state is heard as well. */
+    private void sureOfSlips() {
+        for (int seen = 0; seen <= 9; seen++) {
+            int more = seen == 9 ? 0 : seen + 1;
+            for (int slip = 0; slip <= 9; slip++) {
+                WrongEnd x = ruled(1, 1, "prior if paints=0?3-size:0 end;sees if size=1?" + seen + ":" + more
+                        + " end;slip if size=1?" + slip + ":0 end;");
+                place(x, 0, 0);
+                // Of weight 2: one that sees it and may slip; of weight 1: one that sees one more.
+                int want = 2 * (10 - slip) + Math.max(2 * slip, 10);
+                due("19: " + seen + " seen, slip " + slip, x.sure(0, NONE, 0), want);
+                int both = 2 * (10 - slip) * (10 - slip) + 2 * 2 * (10 - slip) * slip + Math.max(2 * slip * slip, 100);
+                due("19: " + seen + " seen, slip " + slip + ", of two", x.sure(2, 1, 0), both);
+            }
+        }
+    }
+
+    /** By far alone: four things are told from an end of a row of four cells, three from its middle. */
+    private void sureFromTheirCells() {
+        WrongEnd x = ruled(4, 1, "sees far;");
+        int[] cells = {1, 0, 2, 3, 1, 2, 0, 3};
+        place(x, cells);
+        for (int hold = 0; hold < 16; hold++) {
+            int cell = cells[hold / 2];
+            due("19: from " + cell, x.sure(hold, NONE, 0), cell % 3 == 0 ? 40 : 30);
+            for (int other = 0; other < 16; other++) {
+                int second = cells[other / 2];
+                boolean threeThings = cell == second && cell % 3 != 0;
+                long want = hold / 2 == other / 2 ? NONE : threeThings ? 300 : 400;
+                due("19: from " + cell + " and " + second, x.sure(hold, other, 0), want);
+            }
+        }
+    }
+
     /** III: "of like ones the lowest", from the first hold to the last. */
     private void askedAlone() {
         WrongEnd x = new WrongEnd(2, 2);
@@ -422,6 +463,29 @@ public final class EdgesOfWeighingTest extends Sheet {
         apart.lend(1, true);
         due("20: past the lent one, first", apart.ask(0, true, 0), 0);
         due("20: past the lent one, second", apart.ask(0, true, 1), 4);
+    }
+
+    private void askedAtTheirCells() {
+        int[][] lent = {{}, {4}, {4, 6}, {0, 4, 6}, {0, 1, 2, 3, 5, 7}};
+        int[] alone = {8, 12, 0, 2, 8};
+        int[][] two = {{0, 2}, {0, 2}, {0, 2}, {2, 4}, {8, 12}};
+        for (int i = 0; i < lent.length; i++) {
+            WrongEnd x = ruled(4, 1, "sees far;");
+            place(x, 1, 2, 1, 2, 0, 1, 3, 2);
+            for (int scope : lent[i]) {
+                x.lend(scope, true);
+            }
+            due("20: from an end, if there is one", x.ask(0, false, 0), alone[i]);
+            due("20: from two cells, first", x.ask(0, true, 0), two[i][0]);
+            due("20: from two cells, second", x.ask(0, true, 1), two[i][1]);
+        }
+        WrongEnd x = ruled(4, 1, "sees far;");
+        place(x, 1, 1, 1, 2);
+        due("20: not two at one cell, first", x.ask(0, true, 0), 0);
+        due("20: not two at one cell, second", x.ask(0, true, 1), 6);
+        x.lend(3, true);
+        due("20: unless there is no other, first", x.ask(0, true, 0), 0);
+        due("20: unless there is no other, second", x.ask(0, true, 1), 2);
     }
 
     private void asksOfOthers() {
@@ -474,6 +538,7 @@ public final class EdgesOfWeighingTest extends Sheet {
         due("21: the 16th cell", ruled(4, 4, "prior x*y/9;sees if far=0?size:0 end;").eighth(0), 15);
         // From a corner 7 things are told, from the middle 5, from elsewhere 6.
         due("21: of four corners", ruled(4, 4, "sees far;").eighth(0), 0);
+        due("21: no cell behind the last", ruled(2, 1, "sees far/2;").eighth(0), 0);
         due("21: of two like cells", ruled(4, 1, "sees if far=0?1:0 end;prior x*(3-x);").eighth(0), 1);
     }
 

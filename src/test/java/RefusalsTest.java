@@ -18,6 +18,7 @@ public final class RefusalsTest extends Sheet {
     }
 
     private static final int[] NO_HOURS = {LOW, -1, 24, HIGH};
+    private static final String LAID = "prior 17;  sees far;     ";
     private static final boolean[] BOTH = {true, false};
 
     private final List<Vain> refused = new ArrayList<>();
@@ -36,6 +37,7 @@ public final class RefusalsTest extends Sheet {
         test.refusedWhenUsed();
         test.refusedWhenFull();
         test.refusedWhenWeightless();
+        test.takenButWithoutChange();
         test.checks.finish("RefusalsTest");
     }
 
@@ -157,12 +159,8 @@ public final class RefusalsTest extends Sheet {
     }
 
     private void inVain(String name, Fort fort) {
+        refusedHere(name, fort, refused.toArray(new Vain[0]));
         List<Long> untouched = allTold(fort.made());
-        for (Vain vain : refused) {
-            WrongEnd x = fort.made();
-            due(name + ": " + vain.name + " is refused", vain.call.on(x), NONE);
-            compare(name + ", behind " + vain.name, allTold(x), untouched);
-        }
         for (Vain vain : asking) {
             WrongEnd x = fort.made();
             long answer = vain.call.on(x);
@@ -171,7 +169,6 @@ public final class RefusalsTest extends Sheet {
         }
     }
 
-    /** Calls that are refused because of what the fort has or has not. */
     private void refusedHere(String name, Fort fort, Vain... calls) {
         List<Long> untouched = allTold(fort.made());
         for (Vain vain : calls) {
@@ -181,6 +178,7 @@ public final class RefusalsTest extends Sheet {
         }
     }
 
+    /** From here on: what is refused because of what the fort has or has not. */
     private void refusedWhenNew() {
         refusedHere("new", () -> new WrongEnd(2, 1),
                 new Vain("turn", x -> ifTrue(x.turn(0, true))),
@@ -237,6 +235,32 @@ public final class RefusalsTest extends Sheet {
                 new Vain("spied", x -> x.spied(0, 0, 0, 1, 0)));
     }
 
+    /** Calls that are taken, but say what is so already, or undo one another. */
+    private void takenButWithoutChange() {
+        List<Long> untouched = allTold(used());
+        Vain[] calls = {
+            new Vain("hill as it is", x -> told(x.hill(1, 7))),
+            new Vain("turned as it is", x -> told(x.turn(0, true))),
+            new Vain("not turned as it is", x -> told(x.turn(1, false))),
+            new Vain("lent as it is", x -> told(x.lend(1, true))),
+            new Vain("not lent as it is", x -> told(x.lend(2, false))),
+            new Vain("a step and back", x -> told(x.turn(1, true)) + x.undo() - 1),
+            new Vain("by the text that rules", x -> told(x.by(1))),
+            new Vain("the tape's end where it is", x -> x.end(25) - 24),
+            new Vain("more tape and less", x -> x.feed(1, 2, 3, 4, 5) + x.end(25) - 69),
+            // The latest text of this fort had this fault, and the tape is laid as it was.
+            new Vain("a fault once more", x -> {
+                int none = Feeder.text(x, "prior 2;; ");
+                Feeder.lay(x, LAID);
+                return -none;
+            })};
+        for (Vain vain : calls) {
+            WrongEnd x = used();
+            due("used: " + vain.name, vain.call.on(x), 1);
+            compare("used, behind " + vain.name, allTold(x), untouched);
+        }
+    }
+
     /** Something of everything, and an image that is unlike it. */
     private static WrongEnd used() {
         WrongEnd x = new WrongEnd(2, 1);
@@ -255,7 +279,7 @@ public final class RefusalsTest extends Sheet {
         x.by(1);
         x.report(2, 5, 5);
         Feeder.text(x, "prior 1;; ");
-        Feeder.lay(x, "prior 17;  sees far;     ");
+        Feeder.lay(x, LAID);
         return x;
     }
 
