@@ -1038,7 +1038,8 @@ public final class WrongEnd {
                         push(-pop());
                         break;
                     default:
-                        join(order % Sign.KINDS);
+                        int right = pop();
+                        push(bounded(joined(order % Sign.KINDS, pop(), right)));
                 }
             }
             return pop();
@@ -1059,53 +1060,38 @@ public final class WrongEnd {
             return pile[top];
         }
 
-        private void join(int kind) {
-            int right = pop();
-            int left = pop();
-            if (kind >= Sign.PLUS) {
-                push(reckoned(kind, left, right));
-            } else {
-                push(holds(kind, left, right) ? 1 : 0);
-            }
-        }
-
-        private static int reckoned(int kind, int left, int right) {
-            long number = 0;
+        /** What two numbers come to; of a question 1 or 0. */
+        private static long joined(int kind, int left, int right) {
             switch (kind) {
                 case Sign.PLUS:
-                    number = (long) left + right;
-                    break;
+                    return (long) left + right;
                 case Sign.MINUS:
-                    number = (long) left - right;
-                    break;
+                    return (long) left - right;
                 case Sign.TIMES:
-                    number = (long) left * right;
-                    break;
+                    return (long) left * right;
+                case Sign.OVER:
+                    return right == 0 ? 0 : left / right;
+                case Sign.LESS:
+                    return left < right ? 1 : 0;
+                case Sign.LESS_OR_LIKE:
+                    return left <= right ? 1 : 0;
+                case Sign.MORE:
+                    return left > right ? 1 : 0;
+                case Sign.MORE_OR_LIKE:
+                    return left >= right ? 1 : 0;
+                case Sign.LIKE:
+                    return left == right ? 1 : 0;
+                case Sign.UNLIKE:
+                    return left != right ? 1 : 0;
+                case Sign.OR:
+                    return left + right > 0 ? 1 : 0;
                 default:
-                    number = right == 0 ? 0 : left / right;
+                    return left + right > 1 ? 1 : 0;
             }
-            return (int) Math.max(-MOST, Math.min(MOST, number));
         }
 
-        private static boolean holds(int kind, int left, int right) {
-            switch (kind) {
-                case Sign.LESS:
-                    return left < right;
-                case Sign.LESS_OR_LIKE:
-                    return left <= right;
-                case Sign.MORE:
-                    return left > right;
-                case Sign.MORE_OR_LIKE:
-                    return left >= right;
-                case Sign.LIKE:
-                    return left == right;
-                case Sign.UNLIKE:
-                    return left != right;
-                case Sign.OR:
-                    return left + right > 0;
-                default:
-                    return left + right > 1;
-            }
+        private static int bounded(long number) {
+            return (int) Math.max(-MOST, Math.min(MOST, number));
         }
     }
 
